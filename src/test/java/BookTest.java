@@ -335,6 +335,11 @@ public final class BookTest {
 
     private static void reached() {
         QuoitBook x = new QuoitBook();
+        x.match(0, 1, 0);
+        reachIs(x, 0, 1, 2);
+        reachIs(x, 1, 1, 2);
+        reachIs(x, 2, 2, 3);
+        x = new QuoitBook();
         play(x, 0, 1, 5);
         play(x, 0, 2, 5);
         x.match(1, 2, 0);

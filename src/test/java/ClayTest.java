@@ -157,6 +157,11 @@ public final class ClayTest {
         x.iron(1, 149, 0, 20, 10, 0, true);
         Due.due("none lies on one off", x.told(2, 7), 0);
         Due.due("none lies on one off", x.told(3, 8), 3);
+        x.iron(0, -300, 200, 30, 15, 0, true);
+        x.iron(0, -300, 240, 30, 15, 0, true);
+        x.iron(0, -290, -200, 30, 15, 0, true);
+        Due.due("near by x and y", x.told(4, 7), 32);
+        Due.due("near by x alone", x.told(6, 8), 0);
     }
 
     private static void nearness() {
@@ -204,26 +209,29 @@ public final class ClayTest {
 
     private static void counts() {
         QuoitBook x = new QuoitBook();
+        x.iron(1, 300, 100, 30, 15, 0, true);
         x.iron(0, 1, 1, 30, 15, 0, true);
         x.iron(0, 2, 1, 30, 15, 0, true);
+        x.iron(0, 2, 2, 30, 15, 0, true);
         x.iron(1, 3, 1, 30, 15, 0, true);
         x.iron(1, 300, 1, 30, 15, 0, true);
-        x.iron(1, 300, 100, 30, 15, 0, true);
         x.off(1);
-        x.measure(3, 0, 10, 20);
-        x.measure(4, 0, 10, 20);
-        x.measure(4, 2, 21, 30);
+        x.measure(5, 0, 10, 20);
+        x.measure(0, 0, 10, 20);
+        x.measure(0, 2, 21, 30);
         Due.feed(x, "ab");
         x.match(0, 1, 0);
         x.match(2, 1, 0);
+        x.match(2, 3, 0);
         x.dusk(1);
-        int[] counts = {5, 1, 1, 1, 2, 1, 2, 1, 2, 1};
+        int[] counts = {6, 1, 2, 1, 3, 2, 2, 1, 2, 1};
         for (int what = 0; what < counts.length; what++) {
             Due.due("count(" + what + ")", x.count(what), counts[what]);
         }
         Due.due("count outside", x.count(10), QuoitBook.OUTSIDE);
         Due.due("count outside", x.count(-1), QuoitBook.OUTSIDE);
-        x.off(4);
+        x.off(0);
+        Due.due("off", x.count(1), 2);
         Due.due("one off keeps its spans", x.count(8), 2);
         Due.due("one off stays disputed", x.count(9), 1);
     }

@@ -48,6 +48,12 @@ public final class MeasuresTest {
         knownIs(x, 100, 200);
         x.off(0);
         knownIs(x, 100, 200);
+        x.rake();
+        x.iron(0, 300, 0, 30, 15, 0, true);
+        x.measure(0, 2, 0, 9999);
+        knownIs(x, 0, 9999);
+        x.measure(0, 0, 0, 0);
+        knownIs(x, 0, 0);
     }
 
     private static void knownIs(QuoitBook x, int low, int high) {
