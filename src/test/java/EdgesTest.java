@@ -24,6 +24,9 @@ public final class EdgesTest {
         MatchEdges.run();
         TableEdges.run();
         everySentenceHasATest(onOneLine(Files.readString(DOCUMENT)));
+        for (Edge.Named test : args.length > 0 ? Edge.TESTS : List.<Edge.Named>of()) {
+            System.out.println("promise " + test.promise() + ": " + test.sentence());
+        }
         System.out.println(Edge.TESTS.size() + " tests of sentences");
         Due.finish();
     }

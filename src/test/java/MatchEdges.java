@@ -15,10 +15,12 @@ final class MatchEdges {
 
     static void run() {
         Edge.test(19, "A MATCH: its number.", MatchEdges::matchesHaveNumbersFrom0On);
+        Edge.test(19, "What has a number has it from 0 on, as it comes.", MatchEdges::matchesHaveNumbersFrom0On);
         Edge.test(19, "MATCHES (24 at most) of a home and an away VILLAGE,", MatchEdges::twentyFourAtMost);
         Edge.test(19, "by MODE 0 home's RULE, 1 away's, 2 both: ENDS 0, 2, .. by home's, the others by away's.", MatchEdges::endsByMode);
         Edge.test(19, "UNKNOWN, OUTSIDE (MODE; one VILLAGE twice), FULL.", MatchEdges::matchRefused);
         Edge.test(20, "An END of a MATCH: its number.", MatchEdges::endsHaveNumbersFrom0On);
+        Edge.test(20, "What has a number has it from 0 on, as it comes.", MatchEdges::endsHaveNumbersFrom0On);
         Edge.test(20, "ENDS (40 at most of a MATCH)", MatchEdges::fortyEndsAtMost);
         Edge.test(20, "have a SCORE each (home's less away's, -99 .. 99).", MatchEdges::scoresTo99);
         Edge.test(20, "Points of a VILLAGE in it: the sum of what is for it.", MatchEdges::pointsAreSums);
