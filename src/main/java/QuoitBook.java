@@ -1438,9 +1438,20 @@ public final class QuoitBook {
         }
 
         void tryAllWays(int village) {
-            for (int v = 0; v < VILLAGES; v++) {
-                tables[v] = table(v);
+            noteOpenOnes();
+            int ways = 1;
+            for (int k = 0; k < open; k++) {
+                ways *= 3;
             }
+            leastPlace = VILLAGES;
+            greatestPlace = 1;
+            for (int way = 0; way < ways; way++) {
+                takeWay(way);
+                notePlace(village);
+            }
+        }
+
+        private void noteOpenOnes() {
             open = 0;
             for (int m = 0; m < made; m++) {
                 if (matches[m].state == Match.OPEN && open < MOST_OPEN) {
@@ -1448,24 +1459,20 @@ public final class QuoitBook {
                     open++;
                 }
             }
-            leastPlace = VILLAGES;
-            greatestPlace = 1;
-            tryFrom(0, village);
         }
 
-        /** The matches up to k have gone one way each; the others go all ways. */
-        private void tryFrom(int k, int village) {
-            if (k >= open || k >= MOST_OPEN) {
-                notePlace(village);
-                return;
+        /** The figures of way, written by threes, are what the open matches give their homes. */
+        private void takeWay(int way) {
+            for (int v = 0; v < VILLAGES; v++) {
+                tables[v] = table(v);
             }
-            Match match = matches[openOnes[k]];
-            for (int forHome = 0; forHome <= 2; forHome++) {
+            int rest = way;
+            for (int k = 0; k < open; k++) {
+                Match match = matches[openOnes[k]];
+                int forHome = rest % 3;
                 tables[match.home] += forHome;
                 tables[match.away] += 2 - forHome;
-                tryFrom(k + 1, village);
-                tables[match.home] -= forHome;
-                tables[match.away] -= 2 - forHome;
+                rest /= 3;
             }
         }
 

@@ -6,7 +6,9 @@ import java.nio.file.Files;
 import java.nio.file.Path;
 import java.util.ArrayList;
 import java.util.List;
+import java.util.Map;
 import java.util.Set;
+import java.util.TreeMap;
 import java.util.TreeSet;
 import java.util.regex.Matcher;
 import java.util.regex.Pattern;
@@ -103,7 +105,12 @@ public final class LanguageTest {
         while (whole.find()) {
             hold("a while against a bound: " + whole.group(1), whole.group(1).contains(" < "));
         }
+        Matcher counted = Pattern.compile("\\bfor \\((.*)\\) \\{").matcher(source);
+        while (counted.find()) {
+            hold("a for against a bound: " + counted.group(1), counted.group(1).matches("[^;]*;[^;]*[<>][^;]*;[^;]*"));
+        }
         longMethods(source);
+        calls(source);
     }
 
     private static void longMethods(String source) {
@@ -112,5 +119,54 @@ public final class LanguageTest {
             length = line.matches(" {4}(private |public |).*\\(.*\\) \\{") || line.matches(" {8}\\w.*\\) \\{") ? 0 : length + 1;
             hold("a method of some sixty lines: " + line, length <= 60);
         }
+    }
+
+    /**
+     * Rule 8 lets methods call themselves only if they are private and static; the class does without, and rule 11 lets
+     * calls go eight deep. By names alone: methods of one name are taken as one, which can only tell too much.
+     */
+    private static void calls(String source) {
+        Map<String, Set<String>> calls = callsByName(source);
+        hold("methods are found: " + calls.keySet(), calls.keySet().containsAll(Set.of("reach", "notePlace", "Iron")));
+        for (String name : calls.keySet()) {
+            int deep = depth(name, calls, new ArrayList<>());
+            hold("no circle of calls, and eight deep at most: " + name + ", " + deep, deep <= 8);
+        }
+    }
+
+    private static Map<String, Set<String>> callsByName(String source) {
+        Pattern head = Pattern.compile(
+                " {4}(?: {4})?(?:(?:private|public|static) )*(?:\\w[\\w\\[\\]]* )?(?!if\\b|for\\b|while\\b|switch\\b)(\\w+)\\(.*\\) \\{");
+        Pattern call = Pattern.compile("\\b(\\w+)\\(");
+        Map<String, Set<String>> calls = new TreeMap<>();
+        Set<String> inside = new TreeSet<>();
+        for (String line : source.split("\n")) {
+            Matcher method = head.matcher(line);
+            if (method.matches()) {
+                inside = calls.computeIfAbsent(method.group(1), name -> new TreeSet<>());
+                continue;
+            }
+            Matcher called = call.matcher(line);
+            while (called.find()) {
+                inside.add(called.group(1));
+            }
+        }
+        return calls;
+    }
+
+    /** How deep the calls of a method go; far too deep, if it comes to itself again. */
+    private static int depth(String name, Map<String, Set<String>> calls, List<String> above) {
+        if (above.contains(name)) {
+            return 1000;
+        }
+        above.add(name);
+        int deepest = 0;
+        for (String called : calls.get(name)) {
+            if (calls.containsKey(called)) {
+                deepest = Math.max(deepest, 1 + depth(called, calls, above));
+            }
+        }
+        above.remove(above.size() - 1);
+        return deepest;
     }
 }
