@@ -798,6 +798,7 @@ public final class QuoitBook {
 
         static final int CANCEL_NONE = 0;
         static final int CANCEL_PAIRS = 1;
+        static final int CANCEL_TOP = 2;
         static final int NO = 0;
 
         private static final int[] AT_FIRST = {2, 1, 12, 0, 21, 1, 1, 1};
@@ -921,12 +922,12 @@ public final class QuoitBook {
 
         private static int cancelSpelled(Text text, int stop) {
             if (text.spells(stop, "none")) {
-                return 0;
+                return CANCEL_NONE;
             }
             if (text.spells(stop, "pairs")) {
-                return 1;
+                return CANCEL_PAIRS;
             }
-            return text.spells(stop, "top") ? 2 : NONE;
+            return text.spells(stop, "top") ? CANCEL_TOP : NONE;
         }
 
         private static int yesSpelled(Text text, int stop) {
@@ -1004,7 +1005,7 @@ public final class QuoitBook {
             if (cancel == Rule.CANCEL_NONE) {
                 return ringers;
             }
-            if (cancel != Rule.CANCEL_PAIRS) {
+            if (cancel == Rule.CANCEL_TOP) {
                 return latest(ringers, 1);
             }
             int first = ringers & clay.ofSide(0);
@@ -1225,7 +1226,6 @@ public final class QuoitBook {
         static final int WON = 1;
         static final int DIFF = 2;
         static final int FOR = 3;
-        static final int MET = 4;
         static final int WORDS = 5;
         private static final int MOST_BYTES = 60;
 
@@ -1323,6 +1323,8 @@ public final class QuoitBook {
         int greatestPlace;
         /** What each village has by each word of the order. */
         private final int[][] keys;
+        /** The tables by the matches that are not open, and by one way of the open ones too. */
+        private final int[] settled;
         private final int[] tables;
         private final int[] openOnes;
         private int open;
@@ -1332,6 +1334,7 @@ public final class QuoitBook {
             order = new Order();
             sums = new int[SUMS][VILLAGES];
             keys = new int[Order.WORDS][VILLAGES];
+            settled = new int[VILLAGES];
             tables = new int[VILLAGES];
             openOnes = new int[MOST_OPEN];
         }
@@ -1438,6 +1441,9 @@ public final class QuoitBook {
         }
 
         void tryAllWays(int village) {
+            for (int v = 0; v < VILLAGES; v++) {
+                settled[v] = table(v);
+            }
             noteOpenOnes();
             int ways = 1;
             for (int k = 0; k < open; k++) {
@@ -1463,9 +1469,7 @@ public final class QuoitBook {
 
         /** The figures of way, written by threes, are what the open matches give their homes. */
         private void takeWay(int way) {
-            for (int v = 0; v < VILLAGES; v++) {
-                tables[v] = table(v);
-            }
+            System.arraycopy(settled, 0, tables, 0, VILLAGES);
             int rest = way;
             for (int k = 0; k < open; k++) {
                 Match match = matches[openOnes[k]];

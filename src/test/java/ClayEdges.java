@@ -53,6 +53,7 @@ final class ClayEdges {
         Edge.test(7, "NEARNESS of IRON i and k (-9999 .. 9999) held against that of j:", ClayEdges::nearerWithKInBounds);
         Edge.test(7, "-1 less, 0 the same, 1 more.", ClayEdges::nearerLessSameMore);
         Edge.test(7, "a number that need not be whole, and is held exactly.", ClayEdges::nearerIsExact);
+        Edge.test(7, "NEARNESS of IRON i", ClayEdges::nearnessWhateverMenTold);
         Edge.test(7, "UNKNOWN, OUTSIDE; NOT: one of them is a RINGER.", ClayEdges::nearerRefused);
         Edge.test(8, "How many: 0 IRONS, 1 OFF, 2 RINGERS (not OFF) of SIDE 0, 3 of SIDE 1, 4 MATCHES, 5 OPEN ones, "
                 + "6 bytes of THE TEXT, 7 words of THE ORDER, 8 IRONS with a span, 9 DISPUTED ones.", ClayEdges::countsOfAll);
@@ -622,6 +623,27 @@ final class ClayEdges {
         Edge.due(x, x.nearer(0, 1, -856), -1);
         Edge.due(x, x.nearer(1, 0, 855), -1);
         Edge.due(x, x.nearer(1, 0, 856), 1);
+    }
+
+    /** What men tell of an iron is a span of its nearness, not its nearness. */
+    private static void nearnessWhateverMenTold() {
+        for (int measured = 1; measured < 4; measured++) {
+            Calls x = new Calls();
+            x.iron(0, 100, 0, 30, 15, 0, true);
+            x.iron(1, 0, 90, 30, 15, 1, true);
+            for (int i = 0; i < 2; i++) {
+                if ((measured >> i & 1) != 0) {
+                    x.measure(i, 1, 2000, 3000);
+                    x.measure(i, 2, 2500, 3500);
+                }
+            }
+            Edge.due(x, x.told(0, 5), 70);
+            Edge.due(x, x.told(1, 5), 61);
+            Edge.due(x, x.nearer(0, 1, -9), 0);
+            Edge.due(x, x.nearer(0, 1, -10), -1);
+            Edge.due(x, x.nearer(1, 0, 9), 0);
+            Edge.due(x, x.nearer(1, 0, 10), 1);
+        }
     }
 
     private static void nearerLessSameMore() {

@@ -2,6 +2,7 @@
 final class ScoreEdges {
     private static final int UNKNOWN = Edge.UNKNOWN;
     private static final int OUTSIDE = Edge.OUTSIDE;
+    private static final int NOT = Edge.NOT;
 
     private ScoreEdges() {
     }
@@ -26,6 +27,8 @@ final class ScoreEdges {
         Edge.test(13, "SCORE: all points of SIDE 0 less those of SIDE 1.", ScoreEdges::leastAndGreatestScores);
         Edge.test(13, "SCORE of THE CLAY by the RULE of a VILLAGE: what = 0 SCORE, 1, 2 points of SIDE 0, 1, 3 IRONS that COUNT, "
                 + "as a SET, 4 RINGERS that give points, 5 those AHEAD that give points", ScoreEdges::scoreOfBareClay);
+        Edge.test(13, "SCORE of THE CLAY by the RULE of a VILLAGE:", ScoreEdges::whateverMenTold);
+        Edge.test(13, "if for each one (no RINGER, that COUNTS) of the other SIDE", ScoreEdges::eachOfTwelveHolds);
         Edge.test(13, "4 RINGERS that give points, 5 those AHEAD that give points", ScoreEdges::withNoPoints);
         Edge.test(13, "(of likes of most: those that came first).", ScoreEdges::thoseThatCameFirst);
         Edge.test(13, "UNKNOWN, OUTSIDE.", ScoreEdges::scoreRefused);
@@ -366,6 +369,41 @@ final class ScoreEdges {
         lay(x, 0, 100, 0);
         Edge.due(x, x.score(5, 0), 7);
         Edge.due(x, x.score(4, 0), 1);
+    }
+
+    /** Spans are for sure() alone: they say here that the farther one is nearer. */
+    private static void whateverMenTold() {
+        Calls x = new Calls();
+        lay(x, 0, 100, 0);
+        lay(x, 1, 0, 90);
+        scores(x, -1, 0, 1, 3, 0, 2);
+        x.measure(0, 0, 0, 10);
+        x.measure(1, 0, 9000, 9999);
+        Edge.due(x, x.sure(0, 0), 1);
+        scores(x, -1, 0, 1, 3, 0, 2);
+        // Nor does it matter to the score that one is disputed.
+        x.measure(1, 1, 0, 1);
+        Edge.due(x, x.sure(0, 0), NOT);
+        scores(x, -1, 0, 1, 3, 0, 2);
+    }
+
+    private static void eachOfTwelveHolds() {
+        for (int one = 0; one < 12; one++) {
+            for (int side = 0; side < 2; side++) {
+                Calls x = new Calls();
+                for (int i = 0; i < 12; i++) {
+                    lay(x, i == one ? side : 1 - side, 200, 0);
+                }
+                scores(x, 0, 0, 0, 4095, 0, 0);
+                // It alone is nearer, then it alone is farther off.
+                x.knock(one, 199, 0);
+                Edge.due(x, x.score(0, 5), 1 << one);
+                Edge.due(x, x.score(0, 0), side == 0 ? 1 : -1);
+                x.knock(one, 201, 0);
+                Edge.due(x, x.score(0, 5), 4095 & ~(1 << one));
+                Edge.due(x, x.score(0, 0), side == 0 ? -11 : 11);
+            }
+        }
     }
 
     private static void withNoPoints() {

@@ -31,6 +31,7 @@ final class TableEdges {
         Edge.test(25, "THE ORDER is a text (60 bytes at most)", TableEdges::sixtyBytesAtMost);
         Edge.test(25, "a text of more than 60 bytes has FAULT 1 at byte 60).", TableEdges::faultsOfLongTexts);
         Edge.test(25, "of 1 to 5 unlike words,", TableEdges::oneToFiveWords);
+        Edge.test(25, "of 1 to 5 unlike words,", TableEdges::fifthWord);
         Edge.test(25, "blanks between them:", TableEdges::bytesBetweenWords);
         Edge.test(25, "table, won (MATCHES WON),", TableEdges::byEachWord);
         Edge.test(25, "diff (points for it less against it in all its MATCHES, OPEN ones too), for (points for it),",
@@ -42,13 +43,16 @@ final class TableEdges {
         Edge.test(26, "REACH: each OPEN MATCH (6 at most, else LARGE)", TableEdges::sixOpenAtMost);
         Edge.test(26, "may be WON by either or DRAWN:", TableEdges::wonByEitherOrDrawn);
         Edge.test(26, "the least and the greatest PLACE of a VILLAGE by TABLE alone over all ways.", TableEdges::byTableAlone);
+        Edge.test(26, "over all ways.", TableEdges::overAllWays);
         Edge.test(26, "REACH: what = 0 the least, 1 the greatest PLACE.", TableEdges::leastAndGreatest);
         Edge.test(26, "UNKNOWN, OUTSIDE, LARGE.", TableEdges::reachRefused);
     }
 
-    private static void play(Calls x, int home, int away, int score) {
+    private static void play(Calls x, int home, int away, int... scores) {
         int m = x.match(home, away, 0);
-        x.end(m, score);
+        for (int score : scores) {
+            x.end(m, score);
+        }
         x.dusk(m);
     }
 
@@ -241,6 +245,47 @@ final class TableEdges {
         }
         order("met for diff won table x", -11, 23);
         order("met for diff won table ;", -11, 23);
+    }
+
+    /** Places by the order without its last word, and by the whole of it. */
+    private static void placesWithLast(Calls x, String words, String last, int[] without, int[] with) {
+        x.feedAll(words);
+        Edge.due(x, x.order(), 4);
+        placesAre(x, without);
+        x.feedAll(words + " " + last);
+        Edge.due(x, x.order(), 5);
+        placesAre(x, with);
+    }
+
+    private static void fifthWord() {
+        // Villages 0 and 1 are alike, but for who has won when they met.
+        Calls met = new Calls();
+        play(met, 0, 1, 1);
+        play(met, 0, 2, -1);
+        play(met, 1, 3, 1);
+        placesWithLast(met, "table won diff for", "met", new int[] {2, 2, 1, 6, 4, 4}, new int[] {2, 3, 1, 6, 4, 4});
+        // 2 to 1 and 1 to 0.
+        Calls points = new Calls();
+        play(points, 0, 2, 2, -1);
+        play(points, 1, 3, 1);
+        placesWithLast(points, "table won diff met", "for", new int[] {1, 1, 5, 5, 3, 3}, new int[] {1, 2, 5, 6, 3, 3});
+        // 2 to 0 and 2 to 1.
+        Calls diff = new Calls();
+        play(diff, 0, 2, 2);
+        play(diff, 1, 3, 2, -1);
+        placesWithLast(diff, "table won for met", "diff", new int[] {1, 1, 4, 3, 4, 4}, new int[] {1, 2, 6, 3, 4, 4});
+        // One won and one lost, and two drawn.
+        Calls won = new Calls();
+        play(won, 0, 2, 1);
+        play(won, 0, 3, -1);
+        play(won, 1, 4, 0);
+        play(won, 1, 5, 1, -1);
+        placesWithLast(won, "table diff for met", "won", new int[] {2, 2, 6, 1, 5, 4}, new int[] {2, 3, 6, 1, 5, 4});
+        // One drawn, and none played.
+        Calls table = new Calls();
+        play(table, 0, 4, 0);
+        play(table, 4, 5, 1);
+        placesWithLast(table, "won diff for met", "table", new int[] {2, 2, 2, 2, 1, 6}, new int[] {2, 3, 3, 3, 1, 6});
     }
 
     private static void bytesBetweenWords() {
@@ -506,7 +551,66 @@ final class TableEdges {
         Edge.due(x, x.about(5, 7), 0);
     }
 
+    /** Closed matches that give each village its table: those won 2, and those drawn by two that need one more. */
+    private static Calls withTables(int... tables) {
+        Calls x = new Calls();
+        int single = -1;
+        for (int village = 0; village < 6; village++) {
+            for (int won = 0; won < tables[village] / 2; won++) {
+                play(x, village, (village + 1) % 6, 1);
+            }
+            if (tables[village] % 2 == 1 && single < 0) {
+                single = village;
+            } else if (tables[village] % 2 == 1) {
+                play(x, single, village, 0);
+                single = -1;
+            }
+        }
+        return x;
+    }
+
+    /** Nobody is ahead of village 5, if each of the others gets just what that one way gives it: not one point more. */
+    private static void onlyThatWay(int[][] open, int way) {
+        int[] gained = new int[6];
+        int rest = way;
+        for (int[] pair : open) {
+            gained[pair[0]] += rest % 3;
+            gained[pair[1]] += 2 - rest % 3;
+            rest /= 3;
+        }
+        int top = 6;
+        int[] tables = new int[6];
+        for (int village = 0; village < 6; village++) {
+            tables[village] = top - gained[village];
+        }
+        Calls x = withTables(tables);
+        for (int[] pair : open) {
+            x.match(pair[0], pair[1], 0);
+        }
+        Edge.due(x, x.reach(5, 0), 1);
+    }
+
+    private static void overAllWays() {
+        // In a row of matches what each village gets tells how each of them went: no other way does.
+        int[][] row = {{0, 1}, {1, 2}, {2, 3}, {3, 4}};
+        for (int way = 0; way < 81; way++) {
+            onlyThatWay(row, way);
+        }
+        int[][] six = {{1, 0}, {3, 4}, {4, 3}, {0, 1}, {1, 2}, {3, 2}};
+        for (int way = 0; way < 729; way++) {
+            onlyThatWay(six, way);
+        }
+    }
+
     private static void leastAndGreatest() {
+        // Behind all the others whatever comes, and ahead of them all.
+        Calls last = withTables(4, 2, 2, 2, 2, 0);
+        reachIs(last, 5, 6, 6);
+        reachIs(last, 0, 1, 1);
+        last.match(1, 2, 0);
+        reachIs(last, 5, 6, 6);
+        reachIs(last, 0, 1, 1);
+        reachIs(last, 3, 3, 4);
         Calls bare = new Calls();
         for (int village = 0; village < 6; village++) {
             reachIs(bare, village, 1, 1);
