@@ -1,7 +1,6 @@
 import java.io.File;
 import java.lang.reflect.Method;
 import java.lang.reflect.Modifier;
-import java.net.URI;
 import java.net.URL;
 import java.net.URLClassLoader;
 import java.nio.file.Files;
@@ -10,10 +9,6 @@ import java.util.ArrayList;
 import java.util.List;
 import java.util.regex.Matcher;
 import java.util.regex.Pattern;
-import javax.tools.JavaCompiler;
-import javax.tools.JavaFileObject;
-import javax.tools.SimpleJavaFileObject;
-import javax.tools.ToolProvider;
 
 /** Compiles and runs the program that README.md tells, and holds its answers against those that stand there. */
 public final class ReadmeTest {
@@ -81,15 +76,11 @@ public final class ReadmeTest {
                 + "public static java.util.List<Long> run() {\njava.util.List<Long> got = new java.util.ArrayList<>();\n"
                 + statements + "return got;\n}\n}\n";
         Path out = Files.createTempDirectory("readme");
-        JavaFileObject file = new SimpleJavaFileObject(URI.create("string:///ReadmeProgram.java"), JavaFileObject.Kind.SOURCE) {
-            @Override
-            public CharSequence getCharContent(boolean ignoreEncodingErrors) {
-                return source;
-            }
-        };
-        JavaCompiler compiler = ToolProvider.getSystemJavaCompiler();
-        List<String> options = List.of("-d", out.toString(), "-cp", System.getProperty("java.class.path"));
-        boolean compiled = compiler.getTask(null, null, null, options, null, List.of(file)).call();
+        Path file = Files.writeString(out.resolve("ReadmeProgram.java"), source);
+        // By the same javac that .ci/run uses.
+        Process javac = new ProcessBuilder("javac", "-d", out.toString(), "-cp", System.getProperty("java.class.path"),
+                file.toString()).inheritIO().start();
+        boolean compiled = javac.waitFor() == 0;
         hold("README.md: its program compiles", compiled);
         try (URLClassLoader loader = new URLClassLoader(new URL[] {out.toUri().toURL()})) {
             return compiled ? (List<?>) loader.loadClass("ReadmeProgram").getMethod("run").invoke(null) : List.of();
